@@ -184,14 +184,18 @@ public final class MotionSigns {
         needRow(f.base, j);
         needRow(f.base, k);
         needWhat(what, 1);
-        needClosed(f);
+        if (!algebra.closes(f)) {
+            throw new IllegalArgumentException("not closed");
+        }
         return algebra.share(f, i, j, k, what);
     }
 
     public int kind(int d, int what) throws IllegalArgumentException, IllegalStateException {
         Fields f = baseOf(d);
         needWhat(what, 3);
-        needClosed(f);
+        if (!algebra.closes(f)) {
+            throw new IllegalArgumentException("not closed");
+        }
         return algebra.sortOf(f, what);
     }
 
@@ -238,12 +242,14 @@ public final class MotionSigns {
     }
 
     public int sums(int m) throws IllegalArgumentException, IllegalStateException {
-        return densitiesOf(m).rows();
+        needDensities(m);
+        return invariants.densitiesOf(change, m).rows();
     }
 
     public long sum(int m, int i, int a, int b)
             throws NoSuchElementException, IllegalArgumentException, IllegalStateException {
-        Kernel base = densitiesOf(m);
+        needDensities(m);
+        Kernel base = invariants.densitiesOf(change, m);
         needRow(base, i);
         int j = invariants.find(m, a, b);
         return j < 0 ? 0 : base.at(i, j).low();
@@ -383,12 +389,6 @@ public final class MotionSigns {
         }
     }
 
-    private void needClosed(Fields f) {
-        if (!algebra.closes(f)) {
-            throw new IllegalArgumentException("not closed");
-        }
-    }
-
     private Fields baseOf(int d) {
         needEquation();
         if (d < 0 || d >= DEGREES || d > (change.sort == FLOW ? 2 : 3)) {
@@ -397,6 +397,7 @@ public final class MotionSigns {
         Fields f = bases[d];
         if (!f.ready) {
             f.nameAll(change.sort, d);
+            change.makeRules();
             gather.clear();
             for (int j = 0; j < f.names; j++) {
                 change.spread(f.nameAt(j), 1, j, gather);
@@ -408,16 +409,16 @@ public final class MotionSigns {
         return f;
     }
 
-    private Kernel densitiesOf(int m) {
+    private void needDensities(int m) {
         needEquation();
         if (m < 1 || m > 4 || change.sort == CURVE) {
             throw new IllegalArgumentException("no such degree");
         }
-        return invariants.densitiesOf(change, m);
     }
 
     private int restOfMove() {
         if (moveRest == NONE) {
+            change.makeRules();
             gather.clear();
             for (int i = 0; i < move.length(); i++) {
                 change.spread(move.key[i], move.val[i], 0, gather);
@@ -597,8 +598,11 @@ public final class MotionSigns {
 
         void addProduct(Poly a, Poly b, long times, int w) {
             int n = a.length();
+            int m = b.length();
             for (int i = 0; i < n; i++) {
-                addMoved(b, a.key[i], a.val[i] * times, w);
+                for (int j = 0; j < m; j++) {
+                    add(a.key[i] + b.key[j], w, a.val[i] * times * b.val[j]);
+                }
             }
         }
 
@@ -677,7 +681,7 @@ public final class MotionSigns {
         }
 
         void trim() {
-            int n = length();
+            int n = Math.min(size, limb.length);
             for (int i = n - 1; i >= 0 && limb[i] == 0; i--) {
                 n = i;
             }
@@ -693,15 +697,18 @@ public final class MotionSigns {
             // Shifts without a sign read the least long's own opposite rightly, too.
             for (int i = 0; i < 3 && i < limb.length; i++) {
                 limb[i] = (int) (m >>> (LIMB * i) & LOW);
-                size = i + 1;
+                if (limb[i] != 0) {
+                    size = i + 1;
+                }
             }
-            sign = v < 0 ? -1 : 1;
-            trim();
+            sign = v < 0 ? -1 : v > 0 ? 1 : 0;
         }
 
         void copy(Big o) {
-            int n = o.length();
-            room(n);
+            int n = Math.min(o.size, o.limb.length);
+            if (n > limb.length && n <= MOST) {
+                limb = new int[n + 2];
+            }
             size = Math.min(n, limb.length);
             for (int i = 0; i < size; i++) {
                 limb[i] = o.limb[i];
@@ -719,7 +726,7 @@ public final class MotionSigns {
 
         long low() {
             long v = 0;
-            for (int i = Math.min(length(), 3) - 1; i >= 0; i--) {
+            for (int i = Math.min(size, Math.min(limb.length, 3)) - 1; i >= 0; i--) {
                 v = (v << LIMB) + limb[i];
             }
             return sign < 0 ? -v : v;
@@ -727,9 +734,10 @@ public final class MotionSigns {
 
         /** Compares the sizes without the signs. */
         int against(Big o) {
-            int n = length();
-            if (n != o.length()) {
-                return n < o.length() ? -1 : 1;
+            int n = Math.min(size, limb.length);
+            int m = Math.min(o.size, o.limb.length);
+            if (n != m) {
+                return n < m ? -1 : 1;
             }
             for (int i = n - 1; i >= 0 && i < o.limb.length; i--) {
                 if (limb[i] != o.limb[i]) {
@@ -866,16 +874,26 @@ public final class MotionSigns {
                 rem.put(by == 0 ? 0 : n.low() % by);
                 return;
             }
-            int qs = n.length() - d.length() + 1;
-            quot.room(qs);
-            quot.size = Math.min(qs, quot.limb.length);
-            rem.room(d.length());
-            rem.size = Math.min(d.length(), rem.limb.length);
+            int m = d.length();
+            int last = n.length() - m;
+            quot.room(last + 1);
+            rem.room(m);
+            quot.size = Math.min(last + 1, quot.limb.length);
+            rem.size = Math.min(m, rem.limb.length);
             widen(n.length() + 1);
-            if (d.length() == 1) {
-                divideByLimb(n, d, quot, rem);
-            } else {
-                divideLong(n, d, quot, rem);
+            int by = headroom(d);
+            shiftUp(n, top, by);
+            shiftUp(d, foot, by);
+            for (int j = last; j >= 0; j--) {
+                long digit = guessDigit(j, m);
+                digit = takeDigit(j, m, digit);
+                if (j < quot.size) {
+                    quot.limb[j] = (int) digit;
+                }
+            }
+            for (int i = 0; i < rem.size && i + 1 < top.length; i++) {
+                long pair = top[i] + ((i + 1 < m ? (long) top[i + 1] : 0L) << Big.LIMB);
+                rem.limb[i] = (int) (pair >>> by & Big.LOW);
             }
             quot.sign = n.sign * d.sign;
             rem.sign = n.sign;
@@ -890,27 +908,19 @@ public final class MotionSigns {
             }
         }
 
-        private static void divideByLimb(Big n, Big d, Big quot, Big rem) {
-            long by = d.limb.length > 0 ? d.limb[0] : 0;
-            long carry = 0;
-            if (by <= 0) {
-                return;
+        /** How far a divisor can be shifted up within its highest limb. */
+        private static int headroom(Big d) {
+            int i = d.size - 1;
+            int by = 0;
+            while (i >= 0 && i < d.limb.length && by < 30 && ((long) d.limb[i] << by) < (1L << 30)) {
+                by++;
             }
-            for (int i = n.length() - 1; i >= 0; i--) {
-                carry = (carry << Big.LIMB) + n.limb[i];
-                if (i < quot.size) {
-                    quot.limb[i] = (int) (carry / by);
-                }
-                carry %= by;
-            }
-            if (rem.size > 0) {
-                rem.limb[0] = (int) carry;
-            }
+            return by;
         }
 
         private static void shiftUp(Big from, int[] to, int by) {
             long carry = 0;
-            int n = from.length();
+            int n = Math.min(from.size, from.limb.length);
             for (int i = 0; i <= n && i < to.length; i++) {
                 carry += (i < n ? (long) from.limb[i] : 0L) << by;
                 to[i] = (int) (carry & Big.LOW);
@@ -918,39 +928,15 @@ public final class MotionSigns {
             }
         }
 
-        private void divideLong(Big n, Big d, Big quot, Big rem) {
-            int m = d.length();
-            if (n.length() >= top.length || m >= foot.length || m < 2) {
-                return;
-            }
-            int by = 0;
-            while (by < 30 && ((long) d.limb[m - 1] << by) < (1L << 30)) {
-                by++;
-            }
-            shiftUp(n, top, by);
-            shiftUp(d, foot, by);
-            for (int j = n.length() - m; j >= 0; j--) {
-                long q = guessDigit(j, m);
-                q = takeDigit(j, m, q);
-                if (j < quot.size) {
-                    quot.limb[j] = (int) q;
-                }
-            }
-            for (int i = 0; i < m && i < rem.size && i + 1 < top.length; i++) {
-                long pair = top[i] + ((i + 1 < m ? (long) top[i + 1] : 0L) << Big.LIMB);
-                rem.limb[i] = (int) (pair >>> by & Big.LOW);
-            }
-        }
-
         /** A digit of the quotient, at most one too great. */
         private long guessDigit(int j, int m) {
-            if (j < 0 || m < 2 || m > foot.length || j + m >= top.length || foot[m - 1] <= 0) {
+            if (j < 0 || m < 1 || m > foot.length || j + m >= top.length || foot[m - 1] <= 0) {
                 return 0;
             }
             long pair = ((long) top[j + m] << Big.LIMB) + top[j + m - 1];
             long q = pair / foot[m - 1];
             long r = pair % foot[m - 1];
-            for (int i = 0; i < 3 && r <= Big.LOW; i++) {
+            for (int i = 0; i < 3 && m > 1 && r <= Big.LOW; i++) {
                 if (q <= Big.LOW && q * foot[m - 2] <= (r << Big.LIMB) + top[j + m - 2]) {
                     break;
                 }
@@ -1101,6 +1087,7 @@ public final class MotionSigns {
             for (int i = 0; i < last; i++) {
                 if (dot[i].sign != 0) {
                     mend(i, last);
+                    lessen(i);
                 }
             }
             if (last >= 0) {
@@ -1129,7 +1116,6 @@ public final class MotionSigns {
                     mineAt.copy(one);
                 }
             }
-            lessen(i);
         }
 
         /** Divides a row by the greatest number that divides all of it. */
@@ -1552,27 +1538,18 @@ public final class MotionSigns {
                 }
                 for (int letter = U; letter < LAST; letter++) {
                     int b = power(k, letter);
-                    if (b > 0) {
-                        climb(k - unit(letter), letter, v * b);
+                    if (b > 0 && sort == CURVE && letter == P) {
+                        scratch.addMoved(right, k - unit(P), v * b, 0);
+                    } else if (b > 0) {
+                        scratch.add(k - unit(letter) + unit(letter + 1), 0, v * b);
                     }
                 }
             }
             scratch.pourInto(out);
         }
 
-        private void climb(long k, int letter, long v) {
-            if (sort == CURVE && letter == P) {
-                scratch.addMoved(right, k, v, 0);
-            } else {
-                scratch.add(k + unit(letter + 1), 0, v);
-            }
-        }
-
         /** Adds the rest that one term of a field brings. */
         void spread(long term, long v, int who, Tally into) {
-            if (!ruled) {
-                makeRules();
-            }
             int part = power(term, PART);
             one.single(term - part * unit(PART), v);
             into.addProduct(ruleOf(part, 0), one, 1, who);
@@ -1598,7 +1575,11 @@ public final class MotionSigns {
             }
         }
 
-        private void makeRules() {
+        /** Makes the rules that spread goes by, once for an equation. */
+        void makeRules() {
+            if (ruled) {
+                return;
+            }
             for (int i = 0; i < rule.length; i++) {
                 rule[i].clear();
             }
@@ -2121,7 +2102,9 @@ public final class MotionSigns {
 
         void forget() {
             stretchedKnown = false;
-            Arrays.fill(denseKnown, false);
+            for (int i = 0; i < denseKnown.length; i++) {
+                denseKnown[i] = false;
+            }
         }
 
         Kernel stretchesOf(Change change) {

@@ -197,10 +197,32 @@ public final class ModelTest {
         return s.toString();
     }
 
+    /** Many terms of high powers and with great numbers. */
+    private String heavy(String letters, int terms) {
+        StringBuilder s = new StringBuilder();
+        for (int i = 1 + draw(terms); i > 0; i--) {
+            s.append(draw(3) == 0 ? 1 + draw(9) : draw(1000));
+            if (draw(3) == 0) {
+                s.append('*').append(draw(1000));
+            }
+            for (char c : letters.toCharArray()) {
+                if (draw(2) == 0) {
+                    s.append('*').append(c).append(draw(2) == 0 ? "" : "^" + draw(5));
+                }
+            }
+            if (i > 1) {
+                s.append(pick("+", "-"));
+            }
+        }
+        return s.length() < 180 ? s.toString() : "1";
+    }
+
     private void tellEquation() {
         boolean flow = draw(5) < 3;
         String right;
-        if (draw(3) > 0) {
+        if (draw(9) == 0) {
+            right = heavy(flow ? pick("xtupqr", "upqr", "xtu", "up", "xu") : "xup", 9);
+        } else if (draw(3) > 0) {
             right = flow ? pick(FLOWS) : pick(CURVES);
             if (draw(4) == 0) {
                 right = right + pick("+", "-") + (flow ? pick(FLOWS) : pick(CURVES));
@@ -216,7 +238,7 @@ public final class ModelTest {
         if (draw(2) == 0) {
             String letters = curve ? "x" : "xt";
             String e = draw(3) == 0 ? pick("x^2+2*t", "x", "x+t", "3*x-7", "x^3+6*t*x", "0", "t", "1-x", "x^2", "5")
-                : expression(letters, 0, 1 + draw(4));
+                : draw(4) == 0 ? heavy(letters, 9) : expression(letters, 0, 1 + draw(4));
             tell(2, finish("u=" + e + ";"));
             return;
         }
@@ -225,7 +247,7 @@ public final class ModelTest {
         for (String part : new String[] {"x", "t", "u", "u", "x"}) {
             if (draw(part.equals("t") && curve ? 12 : 3) == 0) {
                 s.append(part).append('=');
-                s.append(draw(3) == 0 ? pick("x", "1", "t", "2*t", "u", "-u", "x*t", "x^2", "x*u") : expression(letters, 1, 1 + draw(3)));
+                s.append(draw(3) == 0 ? pick("x", "1", "t", "2*t", "u", "-u", "x*t", "x^2", "x*u") : draw(4) == 0 ? heavy(letters, 3) : expression(letters, 1, 1 + draw(3)));
                 s.append(';');
             }
         }
