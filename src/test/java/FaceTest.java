@@ -1,0 +1,104 @@
+import java.lang.reflect.Constructor;
+import java.lang.reflect.Field;
+import java.lang.reflect.Method;
+import java.lang.reflect.Modifier;
+import java.nio.file.Files;
+import java.nio.file.Path;
+import java.util.Arrays;
+import java.util.List;
+import java.util.TreeSet;
+
+/** The face is the document's and nothing more; the source keeps to what LANGUAGE.md leaves. */
+public final class FaceTest {
+    private static final String FACE = "boolean closed(int) boolean leaves() boolean within(int) int bracket(int,int,int)"
+        + " int count(int) int equation(int) int fault() int feed(int,int,int,int,int) int field(int) int fields(int)"
+        + " int image() int keeps(int,int,int) int kind(int,int) int lines(int) int rest(int) int restore()"
+        + " int shifted(int,int) int solution(int) int solves() int steps(int,int,int) int stretch(int,int)"
+        + " int stretched(int,int) int stretches() int sums(int) int term(int) int told(int) int wave(int,int)"
+        + " long constant(int,int,int,int,int) long left(int,int) long number(int,int,int,int) long sum(int,int,int,int)";
+    private static int wrong;
+
+    private static void check(boolean good, String what) {
+        if (!good) {
+            wrong++;
+            System.out.println("FaceTest: " + what);
+        }
+    }
+
+    public static void main(String[] args) throws Exception {
+        members();
+        nested();
+        source(Files.readString(Path.of("src/main/java/MotionSigns.java")));
+        System.out.println("FaceTest: " + wrong + " wrong");
+        if (wrong != 0) {
+            System.exit(1);
+        }
+    }
+
+    private static void members() {
+        Class<?> c = MotionSigns.class;
+        check(Modifier.isFinal(c.getModifiers()) && Modifier.isPublic(c.getModifiers()), "the class is public and final");
+        TreeSet<String> face = new TreeSet<>();
+        TreeSet<String> names = new TreeSet<>();
+        for (Method m : c.getDeclaredMethods()) {
+            if (Modifier.isPublic(m.getModifiers())) {
+                StringBuilder s = new StringBuilder(m.getReturnType() + " " + m.getName() + "(");
+                for (Class<?> p : m.getParameterTypes()) {
+                    s.append(s.charAt(s.length() - 1) == '(' ? "" : ",").append(p);
+                }
+                face.add(s.append(')').toString());
+                names.add(m.getName());
+            } else {
+                check(Modifier.isPrivate(m.getModifiers()), "not private: " + m);
+            }
+        }
+        for (Method m : c.getDeclaredMethods()) {
+            check(Modifier.isPublic(m.getModifiers()) || !names.contains(m.getName()), "a public one's name: " + m);
+        }
+        check(face.equals(new TreeSet<>(Arrays.asList(FACE.split("(?<=\\)) ")))), "the face is " + face);
+        for (Field f : c.getDeclaredFields()) {
+            check(Modifier.isPrivate(f.getModifiers()) || f.getName().equals("NONE"), "not private: " + f);
+        }
+        Constructor<?>[] made = c.getDeclaredConstructors();
+        check(made.length == 1 && Modifier.isPublic(made[0].getModifiers()) && made[0].getParameterCount() == 0, "constructors");
+    }
+
+    private static void nested() {
+        Class<?>[] all = MotionSigns.class.getDeclaredClasses();
+        check(all.length + 1 <= 12, "too many classes: " + all.length);
+        for (Class<?> c : all) {
+            check(Modifier.isStatic(c.getModifiers()) && Modifier.isPrivate(c.getModifiers()), "not private or static: " + c);
+            for (Method m : c.getDeclaredMethods()) {
+                check(m.getParameterCount() <= 7, "too many parameters: " + m);
+            }
+            long fields = Arrays.stream(c.getDeclaredFields()).filter(f -> !Modifier.isStatic(f.getModifiers())).count();
+            check(fields <= 20, "too many fields: " + c);
+        }
+    }
+
+    private static void source(String text) {
+        String code = text.replaceAll("(?s)/\\*.*?\\*/", "").replaceAll("//.*", "");
+        for (String no : List.of("->", "::", "try", "catch", "finally", "synchronized", "assert", "double", "float",
+                "System", "Thread", "Random", "Object", "Exact", "@", "package", "while (true)", "for (;;)")) {
+            boolean word = Character.isLetter(no.charAt(0)) && no.indexOf('(') < 0 && !no.equals("Exact");
+            String pattern = java.util.regex.Pattern.quote(no);
+            check(!java.util.regex.Pattern.compile(word ? "\\b" + pattern + "\\b" : pattern).matcher(code).find(), "has " + no);
+        }
+        for (String line : code.split("\n")) {
+            check(!line.startsWith("import ") || line.equals("import java.util.Arrays;")
+                || line.equals("import java.util.NoSuchElementException;"), line);
+            check(line.length() <= 120, "a long line: " + line);
+        }
+        int begin = 0;
+        String[] lines = text.split("\n");
+        for (int i = 0; i < lines.length; i++) {
+            if (lines[i].matches("( {4}| {8})[A-Za-z].*[({,]") && !lines[i].contains(" class ")) {
+                begin = lines[i].contains("(") ? i : begin;
+            }
+            if (lines[i].matches("( {4}| {8})}") && lines[begin].startsWith(lines[i].substring(0, lines[i].length() - 1))
+                    && lines[begin].charAt(lines[i].length() - 1) != ' ') {
+                check(i - begin < 60, "a long method: " + lines[begin]);
+            }
+        }
+    }
+}
