@@ -24,7 +24,7 @@ public final class ModelTest {
 
     public static void main(String[] args) {
         int from = args.length > 0 ? Integer.parseInt(args[0]) : 0;
-        int to = args.length > 1 ? Integer.parseInt(args[1]) : 400;
+        int to = args.length > 1 ? Integer.parseInt(args[1]) : 2500;
         ModelTest test = new ModelTest();
         for (int i = from; i < to && test.wrong < 5; i++) {
             test.oneRun(i);
@@ -88,6 +88,9 @@ public final class ModelTest {
         }
         for (int i = 0; i < tells && wrong < 5; i++) {
             tellEquation();
+            if (draw(4) == 0) {
+                sweep();
+            }
             ask(5 + draw(25));
             for (int j = draw(4); j > 0; j--) {
                 tellOther();
@@ -217,10 +220,57 @@ public final class ModelTest {
         return s.length() < 180 ? s.toString() : "1";
     }
 
+    /** Few terms with small numbers and powers: such have many signs. */
+    private String small(String letters) {
+        StringBuilder s = new StringBuilder(draw(3) == 0 ? "-" : "");
+        for (int i = 1 + draw(3); i > 0; i--) {
+            s.append(1 + draw(5));
+            for (int j = draw(3); j > 0; j--) {
+                s.append('*').append(letters.charAt(draw(letters.length()))).append(draw(4) == 0 ? "^2" : "");
+            }
+            if (i > 1) {
+                s.append(pick("+", "-"));
+            }
+        }
+        return s.toString();
+    }
+
+    /** Curves that become straight lines by one change of x and one of u (with a fault at times). */
+    private String bent() {
+        int a = 1 + draw(9);
+        int b = 1 + draw(5);
+        int c = b + (draw(5) == 0 ? 1 : 0);
+        return switch (draw(4)) {
+            case 0 -> a + "*(u+" + b + "*x)^2*(p+" + c + ")^3";
+            case 1 -> a + "*(p+" + 2 * b + "*x)^3-" + 2 * c + pick("", "", "*x", "*u");
+            case 2 -> "-3*(u+" + b + "*x)*(p+" + c + ")-(u+" + b + "*x)^3";
+            default -> "3*(x+" + b + "*u)*p^2*(1+" + b + "*p)+(x+" + c + "*u)^3*p^3";
+        };
+    }
+
+    private void sweep() {
+        for (int d = 0; d <= 3; d++) {
+            int g = d;
+            check("fields(" + d + ")", () -> mine.fields(g), () -> model.fields(g));
+            check("closed(" + d + ")", () -> mine.closed(g) ? 1 : 0, () -> model.closed(g) ? 1 : 0);
+            check("sums(" + (d + 1) + ")", () -> mine.sums(g + 1), () -> model.sums(g + 1));
+            check("lines(" + d + ")", () -> mine.lines(g), () -> model.lines(g));
+            check("keeps(0, " + (d - 1) + ", 1)", () -> mine.keeps(0, g - 1, 1), () -> model.keeps(0, g - 1, 1));
+            for (int what = 0; what <= 3; what++) {
+                int w = what;
+                check("kind(" + d + ", " + w + ")", () -> mine.kind(g, w), () -> model.kind(g, w));
+            }
+        }
+    }
+
     private void tellEquation() {
         boolean flow = draw(5) < 3;
         String right;
-        if (draw(9) == 0) {
+        if (draw(5) == 0) {
+            right = small(flow ? pick("xtupqr", "upq", "up", "xtu", "tup") : "xup");
+        } else if (!flow && draw(6) == 0) {
+            right = bent();
+        } else if (draw(9) == 0) {
             right = heavy(flow ? pick("xtupqr", "upqr", "xtu", "up", "xu") : "xup", 9);
         } else if (draw(3) > 0) {
             right = flow ? pick(FLOWS) : pick(CURVES);

@@ -495,6 +495,21 @@ public final class PromiseTest {
         due(true, k::leaves);
         field(k, "x=t;u=1;");
         due(false, k::leaves);
+        // Of third slopes: x^2 and 2 x u.
+        MotionSigns h = with("flow u^3*r;");
+        field(h, "x=x^2;u=2*x*u;");
+        due(true, h::leaves);
+        due(5, () -> h.fields(2));
+        // Of first slopes: all parts may have all letters.
+        MotionSigns p = with("flow u*p;");
+        field(p, "x=x^2;t=x*t;u=x*u+t*u^2;");
+        due(true, p::leaves);
+        field(p, "x=x^2;t=x*t;u=x*u-t*u^2;");
+        due(false, p::leaves);
+        field(p, "x=u*t;t=-t;");
+        due(true, p::leaves);
+        field(p, "x=u*t;t=t;");
+        due(false, p::leaves);
         MotionSigns c = with("curve 0;");
         field(c, "x=x^2;u=x*u;");
         due(true, c::leaves);
@@ -716,6 +731,11 @@ public final class PromiseTest {
         due(ELEMENT, () -> m.steps(1, 0, 6));
         due(ELEMENT, () -> m.steps(1, -1, 0));
         due(ARGUMENT, () -> m.steps(3, 9, 9));
+        // Eight is the most: x and k t along t times the shift of x is k to n less 1, which wraps to 0.
+        due(8, () -> with("flow 4*256*p;").steps(1, 5, 0));
+        due(7, () -> with("flow 4*256*p;").steps(1, 5, 4));
+        due(-1, () -> with("flow 2*256*p;").steps(1, 5, 0));
+        due(8, () -> with("flow 2*256*p;").steps(1, 5, 4));
         MotionSigns c = with("curve 0;");
         due(ELEMENT, () -> c.steps(3, 8, 0));
         due(3, () -> c.steps(2, 0, 3));
@@ -1012,6 +1032,17 @@ public final class PromiseTest {
         due(0, () -> with("curve x^2*p^3;").lines(0));
         due(1, () -> with("curve x^2*p^3;").lines(1));
         due(0, () -> with("curve x^2*p^3;").lines(2));
+        // Made from straight lines by x and g of u for x, then by u and h of x for u.
+        due(1, () -> with("curve (u+x)^2*(p+1)^3;").lines(0));
+        due(1, () -> with("curve 7*(u+3*x)^2*(p+3)^3;").lines(0));
+        due(1, () -> with("curve 5*(p+4*x)^3-4;").lines(0));
+        due(1, () -> with("curve -3*(u+x)*(p+1)-(u+x)^3;").lines(0));
+        due(1, () -> with("curve 3*(x+u)*p^2*(1+p)+(x+u)^3*p^3;").lines(0));
+        due(1, () -> with("curve 3*x*p^2+x^3*p^3;").lines(0));
+        due(0, () -> with("curve 2*x*p^2+x^3*p^3;").lines(0));
+        due(0, () -> with("curve (u+x)^2*(p+2)^3;").lines(0));
+        due(1, () -> with("curve 5*(p+4*x)^3;").lines(0));
+        due(0, () -> with("curve 5*(p+4*x)^3-u^2;").lines(0));
         MotionSigns h = with("curve p^4+u;");
         due(0, () -> h.lines(0));
         due(-1, () -> h.lines(1));
