@@ -2153,7 +2153,7 @@ public final class MotionSigns {
             }
             int ahead = b == 0 ? 0 : b - 1;
             for (int g = 1; g < a + b; g++) {
-                ahead += g == 1 ? 1 : g;
+                ahead += g;
             }
             return ahead;
         }
@@ -2182,7 +2182,7 @@ public final class MotionSigns {
         // along x have none.
         private void spreadDensity(Change change, int a, int b, int who) {
             two.clear();
-            if (a > 0 && b != 1) {
+            if (a > 0) {
                 two.append((a - 1) * unit(U) + b * unit(P), a - a * b);
             }
             if (b > 1) {

@@ -32,6 +32,11 @@ public final class WorksTest {
         Object a = make(BigInteger.ZERO);
         Object b = make(BigInteger.ZERO);
         for (int n = 0; n < TRIES; n++) {
+            if (DRAWN.nextInt(3) == 0) {
+                // New ones have no room yet.
+                a = make(BigInteger.ZERO);
+                b = make(BigInteger.ZERO);
+            }
             BigInteger common = DRAWN.nextInt(4) == 0 ? drawn() : BigInteger.ONE;
             BigInteger x = drawn().multiply(common);
             BigInteger y = drawn().multiply(common);
@@ -46,6 +51,9 @@ public final class WorksTest {
             int way = DRAWN.nextBoolean() ? 1 : -1;
             add.invoke(a, by, way);
             check(a, way > 0 ? x.add(y) : x.subtract(y), "add " + way, x, y);
+            Object sum = make(x);
+            add.invoke(sum, by, way);
+            check(sum, way > 0 ? x.add(y) : x.subtract(y), "add to a tight one " + way, x, y);
             if (y.signum() != 0) {
                 divide.invoke(w, bx, by, a, b);
                 check(a, x.divide(y), "quotient", x, y);
