@@ -1802,6 +1802,7 @@ public final class MotionSigns {
         private final Works works;
         private final Tally scratch;
         private final Kernel rank;
+        private final Kernel span;
         private final Poly one = new Poly();
         private final Poly two = new Poly();
         private final Poly made = new Poly();
@@ -1820,6 +1821,7 @@ public final class MotionSigns {
             this.works = works;
             this.scratch = scratch;
             rank = new Kernel(works, UNKNOWNS_MOST);
+            span = new Kernel(works, UNKNOWNS_MOST);
             for (int i = 0; i < UNKNOWNS_MOST; i++) {
                 times[i] = new Big();
                 row[i] = new Big();
@@ -1939,10 +1941,11 @@ public final class MotionSigns {
             return f.closed == 1;
         }
 
+        // Both ways round: where a number wraps to the least long, so does its opposite, and only one may be right.
         private boolean allHeld(Fields f) {
             int n = f.base.rows();
             for (int i = 0; i < n; i++) {
-                for (int j = i + 1; j < n; j++) {
+                for (int j = 0; j < n; j++) {
                     if (!holds(f, bracketOf(f, i, j))) {
                         return false;
                     }
@@ -1968,7 +1971,8 @@ public final class MotionSigns {
                 f.setKind(0, derived(n));
                 f.setKind(1, centre(n));
                 divideShares(f.base, true);
-                form(f, n);
+                f.setKind(2, form(n));
+                f.setKind(3, comesToNothing(n) ? 1 : 0);
                 f.sorted = true;
             }
             return f.kindAt(what);
@@ -1996,7 +2000,7 @@ public final class MotionSigns {
         private int derived(int n) {
             rank.begin(n);
             for (int i = 0; i < n; i++) {
-                for (int j = i + 1; j < n; j++) {
+                for (int j = 0; j < n; j++) {
                     for (int k = 0; k < n; k++) {
                         rank.give(k, tableAt(n, i, j, k));
                     }
@@ -2019,21 +2023,16 @@ public final class MotionSigns {
             return rank.rows();
         }
 
-        // Fields make a solvable algebra just if the form of FORM is 0 between all of them and all brackets.
-        private void form(Fields f, int n) {
-            boolean solvable = true;
+        private int form(int n) {
             rank.begin(n);
-            for (int i = 0; i < n && i < row.length; i++) {
-                for (int j = 0; j < n && j < row.length; j++) {
+            for (int i = 0; i < n; i++) {
+                for (int j = 0; j < n; j++) {
                     formNumber(n, i, j);
-                    row[j].copy(total);
                     rank.giveBig(j, total);
                 }
                 rank.take();
-                solvable = solvable && isNoughtOnBrackets(n);
             }
-            f.setKind(2, n - rank.rows());
-            f.setKind(3, solvable ? 1 : 0);
+            return n - rank.rows();
         }
 
         private void formNumber(int n, int i, int j) {
@@ -2054,25 +2053,60 @@ public final class MotionSigns {
             }
         }
 
-        private boolean isNoughtOnBrackets(int n) {
-            for (int i = 0; i < n; i++) {
-                for (int j = i + 1; j < n; j++) {
-                    total.put(0);
-                    for (int k = 0; k < n && k < row.length; k++) {
-                        long a = tableAt(n, i, j, k);
-                        if (a != 0 && row[k].sign != 0) {
-                            first.put(a);
-                            second.times(first, times[k]);
-                            first.times(second, row[k]);
-                            total.add(first, 1);
-                        }
+        // Brackets that wrap need not make a Lie algebra: no theorem on these, only the brackets themselves, will do.
+        private boolean comesToNothing(int n) {
+            span.begin(n);
+            boolean shrinks = true;
+            for (int turn = 0; turn <= n && shrinks && span.rows() > 0; turn++) {
+                int before = span.rows();
+                rank.begin(n);
+                for (int i = 0; i < before; i++) {
+                    for (int j = 0; j < before; j++) {
+                        giveBracket(n, i, j);
+                        rank.take();
                     }
-                    if (total.sign != 0) {
-                        return false;
+                }
+                // What fits all that the brackets fit is what they span.
+                span.begin(n);
+                for (int i = 0; i < rank.rows(); i++) {
+                    for (int k = 0; k < n; k++) {
+                        span.giveBig(k, rank.at(i, k));
+                    }
+                    span.take();
+                }
+                shrinks = span.rows() < before;
+            }
+            return span.rows() == 0;
+        }
+
+        /** Gives the bracket of two rows of the span, as many times as the base's rows have in common. */
+        private void giveBracket(int n, int a, int b) {
+            for (int k = 0; k < n && k < row.length; k++) {
+                row[k].put(0);
+            }
+            for (int i = 0; i < n; i++) {
+                for (int j = 0; j < n && span.at(a, i).sign != 0; j++) {
+                    if (span.at(b, j).sign != 0) {
+                        first.times(span.at(a, i), span.at(b, j));
+                        addBracket(n, i, j);
                     }
                 }
             }
-            return true;
+            for (int k = 0; k < n && k < row.length && k < times.length; k++) {
+                first.times(row[k], times[k]);
+                rank.giveBig(k, first);
+            }
+        }
+
+        private void addBracket(int n, int i, int j) {
+            for (int k = 0; k < n && k < row.length; k++) {
+                long c = tableAt(n, i, j, k);
+                if (c != 0) {
+                    second.put(c);
+                    spare.times(first, second);
+                    row[k].add(spare, 1);
+                }
+            }
         }
     }
 

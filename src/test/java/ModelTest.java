@@ -8,7 +8,8 @@ public final class ModelTest {
         "7*q+11*p+13*u", "q+x", "u*p+x*u", "-u*r+p*q", "u^2", "997*q+991*u*p", "2*q+3*u*p+5*u", "r-q*p", "x*p", "t*p",
         "u*p+t*p", "q+t*x", "5*p^2+3*q+2", "3*r+2*p^2", "x*t*q", "r+t*u*p", "2*p+3*u*p", "999*999*q+u*p", "q*r", "t", "x*u",
         "(1+x)*q", "(x+t)*p", "p^4", "u^4*q", "(u+3)*p", "(2*u+3)*q", "999*998*q+997*996*u*p+995*994*u+993*992*p",
-        "999*998*p+997*996*u+995*994*x+991*983*t", "499*983*r+977*971*u*p+967*953*p+947*941*u+1"};
+        "999*998*p+997*996*u+995*994*x+991*983*t", "499*983*r+977*971*u*p+967*953*p+947*941*u+1",
+        "r+16*q+999*487*p+219*p-999*608-925+999*890*t+869*t", "128*p*p-128*128*p"};
     private static final String[] CURVES = {
         "0", "6*u^2", "u", "p", "p^2", "x", "u^3", "-u", "3*p", "p^3", "u*p", "u^2+x", "p^4", "2*p+u", "x*p", "x^2*u",
         "u*p^2", "-3*u*p-u^3", "7*p+11*u+13", "5*p-6*u", "p^2+u", "x*p^3", "2*p^2+3*p", "997*p+991*u+983", "u^3+p",
@@ -248,6 +249,18 @@ public final class ModelTest {
         };
     }
 
+    /** Numbers that are mostly two's powers: such brackets wrap to the least long, or to 0. */
+    private String even(boolean flow) {
+        String[] parts = pick(flow ? new String[] {"p*p,p", "p*p,p,t", "u*p,u,p", "p,r,t,q", "q,u,t,1"}
+            : new String[] {"p,x,1", "p,u,x", "p*p,p,1", "u,x*x*x,x"}).split(",");
+        StringBuilder s = new StringBuilder();
+        for (int i = 0; i < parts.length; i++) {
+            s.append(i == 0 ? "" : pick("+", "-"));
+            s.append(1 << draw(10)).append('*').append(draw(2) == 0 ? 1 << draw(10) : 1 + draw(9)).append('*').append(parts[i]);
+        }
+        return s.toString();
+    }
+
     private void sweep() {
         for (int d = 0; d <= 3; d++) {
             int g = d;
@@ -268,6 +281,8 @@ public final class ModelTest {
         String right;
         if (draw(5) == 0) {
             right = small(flow ? pick("xtupqr", "upq", "up", "xtu", "tup") : "xup");
+        } else if (draw(12) == 0) {
+            right = even(flow);
         } else if (!flow && draw(6) == 0) {
             right = bent();
         } else if (draw(9) == 0) {

@@ -640,6 +640,21 @@ public final class PromiseTest {
         due(ARGUMENT, () -> c.within(4));
     }
 
+    /** Both ways round are asked: where a number of a bracket wraps to the least long, one of the two may be no sum. */
+    private static void closedEitherWay() {
+        MotionSigns m = with("flow r+16*q+999*487*p+219*p-999*608-925+999*890*t+869*t;");
+        due(6, () -> m.fields(2));
+        due(-144115188075855872L, () -> m.number(2, 5, 2, 20));
+        due(false, () -> m.closed(2));
+        due(ARGUMENT, () -> m.constant(2, 1, 5, 4, 0));
+        due(ARGUMENT, () -> m.kind(2, 0));
+        due(5, () -> m.bracket(2, 1, 5));
+        due(5, () -> m.bracket(2, 5, 1));
+        due(false, () -> with("flow 128*p*p-128*128*p;").closed(2));
+        due(true, () -> with("flow 128*p*p-64*128*p;").closed(2));
+        due(false, () -> with("flow 128*p*p-256*128*p;").closed(2));
+    }
+
     private static void closedOnes() {
         MotionSigns m = with("flow q;");
         due(true, () -> m.closed(0));
@@ -650,6 +665,7 @@ public final class PromiseTest {
         due(ARGUMENT, () -> m.closed(-1));
         due(true, () -> with("flow q+u*p;").closed(2));
         due(false, () -> with("flow 0;").closed(2));
+        closedEitherWay();
         due(true, () -> with("flow 0;").closed(1));
         MotionSigns c = with("curve 0;");
         due(true, () -> c.closed(3));
