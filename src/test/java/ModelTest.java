@@ -18,6 +18,8 @@ public final class ModelTest {
     private long state;
     private int wrong;
     private int calls;
+    // An object is used for at most 512 calls after it has been made.
+    private int left;
     private int run;
     private MotionSigns mine;
     private Model model;
@@ -29,6 +31,9 @@ public final class ModelTest {
         ModelTest test = new ModelTest();
         for (int i = from; i < to && test.wrong < 5; i++) {
             test.oneRun(i);
+        }
+        for (int i = from; i < from + (to - from) / 100 && test.wrong < 5; i++) {
+            test.longRun(1_000_000 + i);
         }
         System.out.println("ModelTest: " + test.calls + " calls, " + test.wrong + " wrong");
         if (test.wrong > 0 || test.calls == 0) {
@@ -62,6 +67,10 @@ public final class ModelTest {
     }
 
     private long check(String call, Call a, Call b) {
+        if (left == 0) {
+            return 0;
+        }
+        left--;
         long got = outcome(a);
         long due = outcome(b);
         calls++;
@@ -74,8 +83,9 @@ public final class ModelTest {
         return got;
     }
 
-    private void oneRun(int number) {
+    private void begin(int number) {
         run = number;
+        left = 512;
         state = number * 7919L + 17;
         for (int i = 0; i < 5; i++) {
             draw(9);
@@ -83,6 +93,23 @@ public final class ModelTest {
         mine = new MotionSigns();
         model = new Model();
         story.setLength(0);
+    }
+
+    /** All 512 calls of one object: its last one is right, too. */
+    private void longRun(int number) {
+        begin(number);
+        while (left > 0 && wrong < 5) {
+            tellEquation();
+            for (int j = 0; j < 3; j++) {
+                ask(5 + draw(12));
+                tellOther();
+                ask(5 + draw(12));
+            }
+        }
+    }
+
+    private void oneRun(int number) {
+        begin(number);
         int tells = 1 + draw(5);
         if (draw(4) == 0) {
             ask(5);
