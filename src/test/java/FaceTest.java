@@ -27,6 +27,7 @@ public final class FaceTest {
 
     public static void main(String[] args) throws Exception {
         members();
+        document(Files.readString(Path.of("../shared/DOC.md")));
         nested();
         source(Files.readString(Path.of("src/main/java/MotionSigns.java")));
         System.out.println("FaceTest: " + wrong + " wrong");
@@ -63,6 +64,38 @@ public final class FaceTest {
         check(made.length == 1 && Modifier.isPublic(made[0].getModifiers()) && made[0].getParameterCount() == 0, "constructors");
     }
 
+    /** Each line of the document's face: what a method answers, takes and throws, and the constant's number. */
+    private static void document(String text) throws Exception {
+        String face = text.substring(text.indexOf("public final class"), text.indexOf("```", text.indexOf("public final class")));
+        int methods = 0;
+        for (String line : face.split("\n")) {
+            if (line.contains("static final int NONE = -1;")) {
+                Field none = MotionSigns.class.getField("NONE");
+                check(none.getInt(null) == -1 && none.getType() == int.class && Modifier.isFinal(none.getModifiers()), "NONE");
+            } else if (line.contains("(") && !line.contains("MotionSigns(")) {
+                methods++;
+                check(hasMethod(line.trim()), "not as the document has it: " + line.trim());
+            }
+        }
+        check(methods == 31, "the document's face has " + methods + " methods");
+    }
+
+    private static boolean hasMethod(String due) {
+        for (Method m : MotionSigns.class.getMethods()) {
+            String head = "public " + m.getReturnType() + " " + m.getName() + "(";
+            String takes = due.substring(due.indexOf('(') + 1, due.indexOf(')')).trim();
+            StringBuilder fails = new StringBuilder();
+            for (Class<?> e : m.getExceptionTypes()) {
+                fails.append(fails.length() == 0 ? " throws " : ", ").append(e.getSimpleName());
+            }
+            if (due.startsWith(head) && m.getParameterCount() == (takes.isEmpty() ? 0 : takes.split(",").length)
+                    && due.endsWith(")" + fails + ";")) {
+                return true;
+            }
+        }
+        return false;
+    }
+
     private static void nested() {
         Class<?>[] all = MotionSigns.class.getDeclaredClasses();
         check(all.length + 1 <= 12, "too many classes: " + all.length);
@@ -70,6 +103,10 @@ public final class FaceTest {
             check(Modifier.isStatic(c.getModifiers()) && Modifier.isPrivate(c.getModifiers()), "not private or static: " + c);
             for (Method m : c.getDeclaredMethods()) {
                 check(m.getParameterCount() <= 7, "too many parameters: " + m);
+                check(!FACE.contains(" " + m.getName() + "("), "a public one's name: " + m);
+            }
+            for (Field f : c.getDeclaredFields()) {
+                check(!Modifier.isStatic(f.getModifiers()) || Modifier.isFinal(f.getModifiers()), "static, but not final: " + f);
             }
             long fields = Arrays.stream(c.getDeclaredFields()).filter(f -> !Modifier.isStatic(f.getModifiers())).count();
             check(fields <= 20, "too many fields: " + c);

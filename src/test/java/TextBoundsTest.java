@@ -126,7 +126,8 @@ public final class TextBoundsTest {
             "equation: flow x1; -> -9 @6", "equation: flow 1x; -> -9 @6", "equation: flow xx; -> -9 @5",
             "equation: flow x*qq; -> -9 @7", "equation: flow qX; -> -9 @6", "equation: flow xa; -> -9 @5",
             "equation: flow xz; -> -9 @5", "equation: flow x`; -> -9 @6", "equation: flow x{; -> -9 @6",
-            "equation: flow 1/; -> -9 @6", "equation: flow 1:; -> -9 @6", "equation: flow 9; -> 1", "equation: flow flaw; -> -9 @5");
+            "equation: flow 1/; -> -9 @6", "equation: flow 1:; -> -9 @6", "equation: flow 9; -> 1",
+            "equation: flow flaw; -> -9 @5");
         int[] places = {100000, 10000, 1000, 100, 10, 1};
         for (int i = 0; i < 6; i++) {
             CHECKS.run("equation: flow 7*" + "xtupqr".charAt(i) + "; -> 1", "term " + places[i] + " -> 7");
@@ -163,7 +164,8 @@ public final class TextBoundsTest {
     private static void powersAtLast() {
         for (char c : "xtupqr".toCharArray()) {
             CHECKS.run("equation: flow " + c + "*" + c + "^3; -> 1", "equation: flow " + c + "*" + c + "^4; -> -6 @;",
-                "equation: flow " + c + "^4*" + c + "^4; -> -6 @;", "equation: flow " + c + "^4*" + c + "-" + c + "^4*" + c + "; -> 0");
+                "equation: flow " + c + "^4*" + c + "^4; -> -6 @;",
+                "equation: flow " + c + "^4*" + c + "-" + c + "^4*" + c + "; -> 0");
         }
         for (char c : "xup".toCharArray()) {
             CHECKS.run("equation: curve " + c + "^2*" + c + "^2; -> 1", "equation: curve " + c + "^2*" + c + "^3; -> -6 @;");
@@ -185,11 +187,13 @@ public final class TextBoundsTest {
         // By a sum, by a product, by a power.
         CHECKS.run("equation: flow (" + SIXTY + "+p)*0; -> -6 @;", "equation: flow (p+" + SIXTY + ")*0; -> -6 @;",
             "equation: flow (" + SIXTY + "+p-p)*0; -> -6 @;", "equation: flow (" + SIXTY + "+p)^0; -> -6 @;",
-            "equation: flow (1+x)*(1+t)*(1+u)*(1+p)*(1+q)*0; -> 0", "equation: flow (1+x)*(1+t)*(1+u)*(1+p)*(1+q)*(1+r)*0; -> -6 @;",
+            "equation: flow (1+x)*(1+t)*(1+u)*(1+p)*(1+q)*0; -> 0",
+            "equation: flow (1+x)*(1+t)*(1+u)*(1+p)*(1+q)*(1+r)*0; -> -6 @;",
             "equation: flow 0*(x+t+u+p+q+r)^3; -> 0", "equation: flow 0*(x+t+u+p+q+r+1)^3; -> -6 @;",
             "equation: flow 0*(x+t+u+p)^4; -> 0", "equation: flow 0*(x+t+u+p+q)^4; -> -6 @;");
         // Terms count when they are put together: 225 of 15 times 15 are 45.
-        CHECKS.run("equation: flow 0*((1+x+t)^4*(1+x+t)^4); -> 0", "equation: flow 0*((1+x)^4*(1+t)^4); -> 0", "equation: flow 0*((1+x)^4*(1+t)^4*(1+u)); -> 0",
+        CHECKS.run("equation: flow 0*((1+x+t)^4*(1+x+t)^4); -> 0", "equation: flow 0*((1+x)^4*(1+t)^4); -> 0",
+            "equation: flow 0*((1+x)^4*(1+t)^4*(1+u)); -> 0",
             "equation: flow 0*((1+x)^4*(1+t)^4*(1+u+u^2)); -> -6 @;",
             "equation: flow 0*((1+x)*(1+x)*(1+x)*(1+x)*(1+x)*(1+x)*(1+x)*(1+x)); -> 0");
     }
@@ -240,33 +244,41 @@ public final class TextBoundsTest {
             "equation: flow q*(-u); -> 1", "term 1010 -> -1", "equation: flow -q^2; -> 1", "term 20 -> -1",
             "equation: flow (-q)^2; -> 1", "term 20 -> 1", "equation: flow u-q-p; -> 3", "term 100 -> -1",
             "equation: flow -q+u; -> 2", "term 1000 -> 1", "equation: flow q**u; -> -9 @7", "equation: flow q*; -> -9 @7",
-            "equation: flow *q; -> -9 @5", "equation: flow q+; -> -9 @7", "equation: flow ^2; -> -9 @5", "equation: flow ; -> -9 @5",
-            "equation: flow =q; -> -9 @5", "equation: flow q=; -> -9 @6", "equation: flow q/2; -> -9 @6", "equation: flow q.; -> -9 @6",
+            "equation: flow *q; -> -9 @5", "equation: flow q+; -> -9 @7", "equation: flow ^2; -> -9 @5",
+            "equation: flow ; -> -9 @5",
+            "equation: flow =q; -> -9 @5", "equation: flow q=; -> -9 @6", "equation: flow q/2; -> -9 @6",
+            "equation: flow q.; -> -9 @6",
             "equation: flow q,; -> -9 @6", "equation: flow 2*q^2*u; -> 1", "term 1020 -> 2", "equation: flow q+2*u^2*3; -> 2",
             "term 2000 -> 6", "equation: flow 2^2*3; -> 1", "term 0 -> 12", "equation: flow 2*3^2; -> 1", "term 0 -> 18");
     }
 
     private static void words() {
         CHECKS.run("equation: flow q; -> 1", "told 0 -> 1", "equation: curve u; -> 1", "told 0 -> 2", "equation: flo q; -> -9 @0",
-            "equation: flows q; -> -9 @0", "equation: curv u; -> -9 @0", "equation: curves u; -> -9 @0", "equation: Flow q; -> -9 @0",
-            "equation: FLOW q; -> -9 @0", "equation: fl ow q; -> -9 @0", "equation: flaw q; -> -9 @0", "equation: curse u; -> -9 @0", "equation: flowq; -> -9 @0", "equation: q; -> -9 @0",
-            "equation: ; -> -9 @0", "equation: x; -> -9 @0", "equation: 3; -> -9 @0", "equation: (u); -> -9 @0", "equation: 1flow q; -> -9 @0", "equation: flow flow q; -> -9 @5", "equation: flow3; -> 1",
+            "equation: flows q; -> -9 @0", "equation: curv u; -> -9 @0", "equation: curves u; -> -9 @0",
+            "equation: Flow q; -> -9 @0",
+            "equation: FLOW q; -> -9 @0", "equation: fl ow q; -> -9 @0", "equation: flaw q; -> -9 @0",
+            "equation: curse u; -> -9 @0", "equation: flowq; -> -9 @0", "equation: q; -> -9 @0",
+            "equation: ; -> -9 @0", "equation: x; -> -9 @0", "equation: 3; -> -9 @0", "equation: (u); -> -9 @0",
+            "equation: 1flow q; -> -9 @0", "equation: flow flow q; -> -9 @5", "equation: flow3; -> 1",
             "equation: flow(q); -> 1", "equation: flow-q; -> 1", "equation: curve3; -> 1", "told 0 -> 2",
             "equation: flow q;q -> -9 @7", "equation: flow q;; -> -9 @7", "equation: flow q;  1 -> -9 @9",
-            "equation: flow q;\0 -> -9 @7", "equation: flow\0q; -> -9 @4", "equation: flow q\t; -> -9 @6", "equation: \nflow q; -> -9 @0",
+            "equation: flow q;\0 -> -9 @7", "equation: flow\0q; -> -9 @4", "equation: flow q\t; -> -9 @6",
+            "equation: \nflow q; -> -9 @0",
             "equation: flow \u00e9; -> -9 @5", "equation: flow q\u00a0; -> -9 @6", "equation: flow q\u00bb -> -9 @6");
     }
 
     private static void blanks() {
         CHECKS.run("equation:   flow   -   12  *  (  q  +  3  )  ^  2   -  u  ;    -> 4", "term 20 -> -12", "term 10 -> -72",
             "term 0 -> -108", "term 1000 -> -1", "equation: flow 1 2; -> -9 @7", "equation: flow q ^ 2 ^ 2; -> -9 @11",
-            "equation: flow   1000  ; -> -8 @7", "equation: flow   (  (((((  (; -> -7 @17", "equation: flow  x^4 * x  ; -> -6 @;");
+            "equation: flow   1000  ; -> -8 @7", "equation: flow   (  (((((  (; -> -7 @17",
+            "equation: flow  x^4 * x  ; -> -6 @;");
         CHECKS.run(FLOW[0] + " -> 1", "field:  x  =  x  ;  u  =  1  ;   -> 2", "field:  x  =  x  ;   x = 1; -> -7 @14",
             "solution:   u  =  x  ;    -> 1", "solution:  u = 1 ;  u -> -9 @10");
     }
 
     private static void fields() {
-        CHECKS.run(FLOW[0] + " -> 1", "field:  -> 0", "rest 1 -> 0", "field: u=1;t=2;x=3; -> 3", "rest 1 -> 3", "field: t=0; -> 0",
+        CHECKS.run(FLOW[0] + " -> 1", "field:  -> 0", "rest 1 -> 0", "field: u=1;t=2;x=3; -> 3", "rest 1 -> 3",
+            "field: t=0; -> 0",
             "field: x=1; -> 1", "field: x=1;t=1; -> 2", "field: x=1;x=1; -> -7 @4", "field: x=1;t=1;t=1; -> -7 @8",
             "field: u=1;t=1;x=1;u=1; -> -7 @12", "field: x=1;u=1;t=1;t -> -7 @12", "field: x=1;u=1;t=1;p -> -9 @12",
             "field: x=1;u=1;t=1;1 -> -9 @12", "field: x=1;xx=1; -> -9 @4", "field: x=1;x1=1; -> -7 @4", "field: x=1 -> -9 @3",
@@ -280,14 +292,18 @@ public final class TextBoundsTest {
     }
 
     private static void solutions() {
-        CHECKS.run(FLOW[0] + " -> 1", "solution: u=0; -> 0", "solution: u=x; -> 1", "solution: u=x -> -9 @3", "solution: u= -> -9 @2",
-            "solution: u -> -9 @1", "solution:  -> -9 @0", "solution: =1; -> -9 @0", "solution: x; -> -9 @0", "solution: 1=u; -> -9 @0", "solution: uu=1; -> -9 @0", "solution: u=1;u=1; -> -9 @4", "solution: u=1;; -> -9 @4",
-            "solution: u==1; -> -9 @2", "solution: u1; -> -9 @1", "solution: u=x^4*x; -> -6 @;", "left 0 0 -> 0", "shifted 1 0 -> 0",
+        CHECKS.run(FLOW[0] + " -> 1", "solution: u=0; -> 0", "solution: u=x; -> 1", "solution: u=x -> -9 @3",
+            "solution: u= -> -9 @2",
+            "solution: u -> -9 @1", "solution:  -> -9 @0", "solution: =1; -> -9 @0", "solution: x; -> -9 @0",
+            "solution: 1=u; -> -9 @0", "solution: uu=1; -> -9 @0", "solution: u=1;u=1; -> -9 @4", "solution: u=1;; -> -9 @4",
+            "solution: u==1; -> -9 @2", "solution: u1; -> -9 @1", "solution: u=x^4*x; -> -6 @;", "left 0 0 -> 0",
+            "shifted 1 0 -> 0",
             "solution: u=x^2; -> 1", "left 0 0 -> -2");
     }
 
     private static void firstFromTheLeft() {
-        CHECKS.run("equation: flow 1000*(((((((q -> -8 @5", "equation: flow (((((((1000 -> -7 @11", "equation: flow s*1000; -> -9 @5",
+        CHECKS.run("equation: flow 1000*(((((((q -> -8 @5", "equation: flow (((((((1000 -> -7 @11",
+            "equation: flow s*1000; -> -9 @5",
             "equation: flow 1000*s; -> -8 @5", "equation: flow x^4*x*1000; -> -8 @11", "equation: flow x^4*x*s; -> -9 @11",
             "equation: flow x^4*x*(((((((q; -> -7 @17", "equation: flow x^4*x -> -9 @10", "equation: flow x^4*x;; -> -6 @;",
             "equation: flow x^4*x; s -> -6 @;", "equation: flow 1000;; -> -8 @5", "equation: flow q^5*1000; -> -8 @7",
@@ -306,17 +322,20 @@ public final class TextBoundsTest {
             "equation 0 -> -9 @0", "field 0 -> 0", "solution 0 -> -9 @0", "equation 12 -> -9 @12", "equation 13 -> 2",
             "equation 20 -> 2", "field 20 -> -9 @0", "solution 20 -> -9 @0");
         String[] told = java.util.Arrays.copyOf(WHOLE, WHOLE.length - 1);
-        CHECKS.each(told, "equation 0 -> -9 @0", "equation 1 -> throws.IllegalArgumentException", "field 1 -> throws.IllegalArgumentException",
+        CHECKS.each(told, "equation 0 -> -9 @0", "equation 1 -> throws.IllegalArgumentException",
+            "field 1 -> throws.IllegalArgumentException",
             "solution 1 -> throws.IllegalArgumentException", "equation: flow q -> -9 @6", "equation: flow 1000; -> -8 @5",
             "equation: flow (((((((q))))))); -> -7 @11", "equation: flow x^4*x; -> -6 @;", "field: p=1; -> -9 @0",
             "field: x=1000; -> -8 @2", "field: x=1;x=1; -> -7 @4", "field: x=x^4*x; -> -6 @;", "field: x=1; -> 1", "field:  -> 0",
             "solution: u=1;; -> -9 @4", "solution: u=1000; -> -8 @2", "solution: u=(((((((x))))))); -> -7 @8",
             "solution: u=x^4*x; -> -6 @;", "solution: u=1; -> 1", "solution: u=0; -> 0", "image -> 3", "restore -> 1");
         // A new equation: nothing is left of the old one, of what was told to it, and of what was asked of it.
-        String[] equations = {"flow q;", "flow p^2;", "curve 0;", "flow r+6*u*p;", "curve 6*u^2;", "flow p^2;", "curve x*p+u;", "flow x^2*q+x*p+t;",
+        String[] equations = {"flow q;", "flow p^2;", "curve 0;", "flow r+6*u*p;", "curve 6*u^2;", "flow p^2;", "curve x*p+u;",
+            "flow x^2*q+x*p+t;",
             "flow 2*p+4*p^2;", "curve p;", "flow u;", "curve x^2*p^3;", "flow q;"};
         for (int i = 1; i < equations.length; i++) {
-            MotionSigns again = Checks.after("equation: " + equations[i - 1], "field: x=x+u;u=u^2+x;", "solution: u=x^4+x^3;", "image",
+            MotionSigns again = Checks.after("equation: " + equations[i - 1], "field: x=x+u;u=u^2+x;", "solution: u=x^4+x^3;",
+                "image",
                 "solution: u=x+1;");
             Checks.all(again, "EFS");
             Checks.ask(again, "equation: " + equations[i]);
@@ -324,7 +343,8 @@ public final class TextBoundsTest {
                 Checks.all(again, "EFSI"));
         }
         // So of a field, a solution, an image.
-        String[][] others = {{"field: x=u;", "F"}, {"field: u=x^2+1;", "F"}, {"solution: u=x^3+x;", "S"}, {"solution: u=0;", "S"}};
+        String[][] others = {{"field: x=u;", "F"}, {"field: u=x^2+1;", "F"}, {"solution: u=x^3+x;", "S"}, {"solution: u=0;",
+            "S"}};
         for (String equation : equations) {
             for (String[] other : others) {
                 String[] first = {"equation: " + equation, "field: x=x+u;u=u^2+x;", "solution: u=x^4+x^3;"};
