@@ -233,6 +233,17 @@ public final class TextBoundsTest {
             "equation: flow ((((((q)+((q)))))); -> -7 @15", "equation: flow (((((( (; -> -7 @12",
             "equation: flow ((((((); -> -9 @11", "equation: flow ((((((q))))))); -> -9 @18",
             "equation: flow ((((((q)))))  ; -> -9 @19", "equation: flow (; -> -9 @6", "equation: flow ); -> -9 @5");
+        // All six with sums, products and powers of their own: none runs into another's.
+        CHECKS.run("equation: flow u+((((((q^2)))))); -> 2", "term 1000 -> 1", "term 20 -> 1",
+            "equation: flow 3*x-2*(u+5*(1-(2+(p-(1+q^2*(3-r^2))^1*2)))^1); -> 6", "term 100000 -> 3", "term 1000 -> -2", "term 0 -> -10",
+            "term 100 -> 10", "term 20 -> -60", "term 22 -> 20",
+            "equation: flow (1+u*(1-x*(2+t^2*(1+p^3*(1+q^4*(5-r^2))))))^1; -> 7", "term 0 -> 1", "term 1000 -> 1", "term 101000 -> -2",
+            "term 121000 -> -1", "term 121300 -> -1", "term 121340 -> -5", "term 121342 -> 1",
+            "equation: flow 7-(6-(5-(4-(3-(2-u)^2)^1)^1)^1)^2; -> 5", "term 0 -> -29", "term 1000 -> 48", "term 2000 -> -28",
+            "term 3000 -> 8", "term 4000 -> -1",
+            "equation: flow 2*(3*(4*(5*(6*(7*u^2-1)+1)-1)+1)-1)+1-u*(u*(u*(u-1)+1)-1); -> 5", "term 2000 -> 5039", "term 0 -> -619",
+            "term 4000 -> -1", "term 3000 -> 1", "term 1000 -> 1", "equation: flow -(-(-(-(-(-u^3)))))*(-(-(-(-(-(-u)))))); -> 1",
+            "term 4000 -> 1");
         CHECKS.run("equation: curve ((((((u)))))); -> 1", "equation: curve (((((((u))))))); -> -7 @12",
             "field: x=((((((u)))))); -> 1", "field: x=1;u=(((((((u))))))); -> -7 @12", "solution: u=((((((x)))))); -> 1",
             "solution: u=(((((((x))))))); -> -7 @8");
