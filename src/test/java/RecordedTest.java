@@ -4,8 +4,8 @@ import java.util.ArrayList;
 import java.util.List;
 
 /**
- * Runs whose answers a second program worked out, written from the document alone and in another language: a row a
- * call, an empty line behind each run.
+ * Runs whose answers a second program worked out, written by the document's words in another language: a row a call, an
+ * empty line behind each run.
  */
 public final class RecordedTest {
     private static final Path ROWS = Path.of("src/test/runs/recorded.txt");
